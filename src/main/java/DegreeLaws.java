@@ -423,17 +423,7 @@ public final class DegreeLaws {
 
     public int heaviest(int w) throws NoSuchElementException {
         needWard(w);
-        int best = NONE;
-        int most = 0;
-        for (int a = 0; a < sky.land.acts; a++) {
-            int live = sky.liveActs() & sky.land.actsOfKind[sky.land.kindOf[a]];
-            int fewer = ahead().barredHours(w, live) - ahead().barredHours(w, live & ~(1 << a));
-            if (fewer > most) {
-                most = fewer;
-                best = a;
-            }
-        }
-        return best;
+        return ahead().heaviestIn(w);
     }
 
     // ---- ways
@@ -1568,12 +1558,26 @@ public final class DegreeLaws {
             return NONE;
         }
 
-        /** In how many hours of the day to come some of these acts is in force, were there no others of its kind. */
-        int barredHours(int w, int among) {
+        int heaviestIn(int w) {
+            layDegrees(w, 0, DAY);
+            int best = NONE;
+            int most = 0;
+            for (int a = 0; a < sky.land.acts; a++) {
+                int live = sky.liveActs() & sky.land.actsOfKind[sky.land.kindOf[a]];
+                int fewer = barredHours(live, w) - barredHours(live & ~(1 << a), w);
+                if (fewer > most) {
+                    most = fewer;
+                    best = a;
+                }
+            }
+            return best;
+        }
+
+        /** By the degrees laid: in how many hours of the day to come some of these acts bars by themselves. */
+        private int barredHours(int some, int w) {
             int many = 0;
             for (int n = 0; n < DAY; n++) {
-                int hour = sky.now[HOUR] + n;
-                if (sky.inForce(w, hour, sky.degreeIn(w, hour), among) != 0) {
+                if (sky.inForce(w, sky.now[HOUR] + n, degrees[n], some) != 0) {
                     many++;
                 }
             }
@@ -1588,21 +1592,12 @@ public final class DegreeLaws {
             int fewest = MOST_ACTS + 1;
             for (int some = 1; some <= acts; some++) {
                 int many = Integer.bitCount(some);
-                if ((some & ~acts) == 0 && many < fewest && covers(some, w)) {
+                if ((some & ~acts) == 0 && many < fewest && barredHours(some, w) == DAY) {
                     fewest = many;
                     best = some;
                 }
             }
             return best;
-        }
-
-        private boolean covers(int some, int w) {
-            for (int n = 0; n < DAY; n++) {
-                if (sky.inForce(w, sky.now[HOUR] + n, degrees[n], some) == 0) {
-                    return false;
-                }
-            }
-            return true;
         }
     }
 
