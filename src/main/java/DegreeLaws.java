@@ -484,7 +484,7 @@ public final class DegreeLaws {
             needWithin(what, 10, 13);
         }
         Agenda errands = agendaOf(told);
-        errands.findBest();
+        errands.tryOrders(0, 0, 0);
         return what == 0 ? errands.bestEnd : errands.placeInBest(what - 10);
     }
 
@@ -500,26 +500,30 @@ public final class DegreeLaws {
 
     public int seen(int tray, int kind, int w) throws NoSuchElementException, IllegalStateException, IllegalArgumentException {
         Tray fines = needSeen(tray, kind, w);
-        return breathsOf(fines, kind, w).many;
+        Thermometer breathedOn = glass();
+        breathedOn.find(fines, kind, w);
+        return breathedOn.many;
     }
 
     public int breath(int tray, int kind, int w, int k) throws NoSuchElementException, IllegalStateException, IllegalArgumentException {
         Tray fines = needSeen(tray, kind, w);
         needNotBelowZero(k);
-        Thermometer found = breathsOf(fines, kind, w);
-        return k < found.many ? found.breaths[k] : NO_SUCH_DEGREES;
+        Thermometer breathedOn = glass();
+        breathedOn.find(fines, kind, w);
+        return k < breathedOn.many ? breathedOn.breaths[k] : NO_SUCH_DEGREES;
     }
 
     public int look(int tray, int kind, int w) throws NoSuchElementException, IllegalStateException, IllegalArgumentException {
         Tray fines = needSeen(tray, kind, w);
-        return breathsOf(fines, kind, w).tellingHour(kind, w);
+        Thermometer breathedOn = glass();
+        breathedOn.find(fines, kind, w);
+        return breathedOn.tellingHour(kind, w);
     }
 
-    private Thermometer breathsOf(Tray fines, int kind, int w) {
+    private Thermometer glass() {
         if (thermometer == null) {
             thermometer = new Thermometer(sky);
         }
-        thermometer.find(fines, kind, w);
         return thermometer;
     }
 
@@ -795,44 +799,39 @@ public final class DegreeLaws {
             place = NONE;
             advance();
             for (int i = 0; i <= MOST_BYTES && fault == 0 && token != END; i++) {
-                readLine();
+                switch (token) {
+                    case WARD:
+                        readWard();
+                        break;
+                    case ACT:
+                        readAct();
+                        break;
+                    case DEGREE:
+                        beginLaw(false);
+                        readSum(0);
+                        land.degreeLaw = Arrays.copyOf(law, lawLength);
+                        break;
+                    case PREVAILS:
+                        beginLaw(true);
+                        readTruth(0);
+                        land.prevailsLaw = Arrays.copyOf(law, lawLength);
+                        break;
+                    case WHOLE:
+                    case BEGUN:
+                        land.whole = token == WHOLE;
+                        advance();
+                        break;
+                    case HOUR_WORD:
+                        advance();
+                        land.firstHour = takeNumber(0, TOP_AHEAD);
+                        break;
+                    default:
+                        refuse();
+                }
                 take(';');
                 land.lines++;
             }
             return land;
-        }
-
-        private void readLine() {
-            switch (token) {
-                case WARD:
-                    readWard();
-                    break;
-                case ACT:
-                    readAct();
-                    break;
-                case DEGREE:
-                    readLaw(false);
-                    land.degreeLaw = Arrays.copyOf(law, lawLength);
-                    break;
-                case PREVAILS:
-                    readLaw(true);
-                    land.prevailsLaw = Arrays.copyOf(law, lawLength);
-                    break;
-                case WHOLE:
-                    land.whole = true;
-                    advance();
-                    break;
-                case BEGUN:
-                    land.whole = false;
-                    advance();
-                    break;
-                case HOUR_WORD:
-                    advance();
-                    land.firstHour = takeNumber(0, TOP_AHEAD);
-                    break;
-                default:
-                    refuse();
-            }
         }
 
         private void readWard() {
@@ -882,16 +881,11 @@ public final class DegreeLaws {
             }
         }
 
-        private void readLaw(boolean prevails) {
+        private void beginLaw(boolean prevails) {
             ofPrevails = prevails;
             lawLength = 0;
             advance();
             take(':');
-            if (prevails) {
-                readTruth(0);
-            } else {
-                readSum(0);
-            }
         }
 
         private void readTruth(int depth) {
@@ -913,31 +907,31 @@ public final class DegreeLaws {
         }
 
         private void readUnit(int depth) {
+            if (fault != 0) {
+                return;
+            }
             if (token == NOT) {
                 if (goesDeeper(depth)) {
                     readUnit(depth + 1);
                     put(Machine.OPPOSITE);
                 }
-            } else if (token == '[') {
+                return;
+            }
+            if (token == '[') {
                 if (goesDeeper(depth)) {
                     readTruth(depth + 1);
                     take(']');
                 }
-            } else {
-                readComparison(depth);
+                return;
             }
-        }
-
-        private void readComparison(int depth) {
             readSum(depth);
             int sign = token;
-            if (sign != '=' && sign != '<' && sign != '>') {
-                refuse();
-            }
-            if (fault == 0) {
+            if (sign == '=' || sign == '<' || sign == '>') {
                 advance();
                 readSum(depth);
                 put(sign == '=' ? Machine.EQUAL : sign == '<' ? Machine.LESS : Machine.MORE);
+            } else {
+                refuse();
             }
         }
 
@@ -1046,40 +1040,42 @@ public final class DegreeLaws {
             start = at;
             if (at >= end) {
                 token = END;
-            } else if (isDigit(text[at])) {
-                scanNumber();
-            } else if (isLetter(text[at])) {
-                scanWord();
+            } else if (text[at] >= 'a' && text[at] <= 'z') {
+                skip('a', 'z');
+                token = wordHere();
+            } else if (text[at] >= '0' && text[at] <= '9') {
+                skip('0', '9');
+                token = at - start <= 3 ? NUMBER : NO_TOKEN;
+                number = numberHere();
             } else {
                 token = isSign(text[at]) ? text[at] : NO_TOKEN;
                 at++;
             }
         }
 
-        private void scanNumber() {
-            number = 0;
-            while (at < end && isDigit(text[at])) {
-                // Longer rows of digits are no token, so only the first three need to count.
-                if (at - start < 3) {
-                    number = 10 * number + text[at] - '0';
-                }
+        private void skip(int first, int last) {
+            while (at < end && text[at] >= first && text[at] <= last) {
                 at++;
             }
-            token = at - start <= 3 ? NUMBER : NO_TOKEN;
         }
 
-        private void scanWord() {
-            while (at < end && isLetter(text[at])) {
-                at++;
+        private int numberHere() {
+            int v = 0;
+            // Longer rows of digits are no token, so only the first three need to count.
+            for (int i = start; i < at && i < start + 3; i++) {
+                v = 10 * v + text[i] - '0';
             }
-            token = OTHER_WORD;
+            return v;
+        }
+
+        private int wordHere() {
             int word = FIRST_WORD;
             int same = start;
-            for (int i = 0; i < WORDS.length() && token == OTHER_WORD; i++) {
+            for (int i = 0; i < WORDS.length(); i++) {
                 char c = WORDS.charAt(i);
                 if (c == ' ') {
                     if (same == at) {
-                        token = word;
+                        return word;
                     }
                     word++;
                     same = start;
@@ -1088,14 +1084,7 @@ public final class DegreeLaws {
                     same = same >= start && same < at && text[same] == c ? same + 1 : start - 1;
                 }
             }
-        }
-
-        private static boolean isDigit(int c) {
-            return c >= '0' && c <= '9';
-        }
-
-        private static boolean isLetter(int c) {
-            return c >= 'a' && c <= 'z';
+            return OTHER_WORD;
         }
 
         private static boolean isSign(int c) {
@@ -1134,38 +1123,47 @@ public final class DegreeLaws {
                     }
                     pile[top] = step < FIRST_SLOT ? step : slots[step - FIRST_SLOT];
                     top++;
-                } else if (step == OPPOSITE) {
-                    if (top < 1) {
-                        return 0;
-                    }
-                    pile[top - 1] = 1 - pile[top - 1];
-                } else {
-                    if (top < 2) {
-                        return 0;
-                    }
-                    top--;
-                    pile[top - 1] = join(step, pile[top - 1], pile[top]);
+                    continue;
                 }
+                // Of one number, or of two of which the second is taken off the pile.
+                top -= step == OPPOSITE ? 0 : 1;
+                if (top < 1) {
+                    return 0;
+                }
+                long a = pile[top - 1];
+                long b = step == OPPOSITE ? 0L : pile[top];
+                long v;
+                switch (step) {
+                    case PLUS:
+                        v = a + b;
+                        break;
+                    case MINUS:
+                        v = a - b;
+                        break;
+                    case TIMES:
+                        v = a * b;
+                        break;
+                    case EQUAL:
+                        v = a == b ? 1L : 0L;
+                        break;
+                    case LESS:
+                        v = a < b ? 1L : 0L;
+                        break;
+                    case MORE:
+                        v = a > b ? 1L : 0L;
+                        break;
+                    case BOTH:
+                        v = a & b;
+                        break;
+                    case EITHER:
+                        v = a | b;
+                        break;
+                    default:
+                        v = 1L - a;
+                }
+                pile[top - 1] = (int) (v > FURTHEST ? FURTHEST : v < -FURTHEST ? -FURTHEST : v);
             }
             return top > 0 ? pile[0] : 0;
-        }
-
-        private static int join(int step, long a, long b) {
-            switch (step) {
-                case EQUAL:
-                    return a == b ? 1 : 0;
-                case LESS:
-                    return a < b ? 1 : 0;
-                case MORE:
-                    return a > b ? 1 : 0;
-                case BOTH:
-                    return (int) (a & b);
-                case EITHER:
-                    return (int) (a | b);
-                default:
-                    long v = step == PLUS ? a + b : step == MINUS ? a - b : a * b;
-                    return (int) (v > FURTHEST ? FURTHEST : v < -FURTHEST ? -FURTHEST : v);
-            }
         }
     }
 
@@ -1235,7 +1233,12 @@ public final class DegreeLaws {
             return inForce(w, hour, degreeIn(w, hour), liveActs());
         }
 
-        /** Which of some acts are in force by themselves, in a degree. */
+        /** The acts of a kind that aren't repealed. */
+        int actsOf(int kind) {
+            return liveActs() & land.actsOfKind[kind];
+        }
+
+        /** Which of some acts are in force in a degree, were there no others. */
         int inForce(int w, int hour, int degree, int among) {
             int speaking = 0;
             for (int a = 0; a < land.acts; a++) {
@@ -1243,10 +1246,6 @@ public final class DegreeLaws {
                     speaking |= 1 << a;
                 }
             }
-            return prevailingOf(speaking, w, hour);
-        }
-
-        int prevailingOf(int speaking, int w, int hour) {
             if (land.prevailsLaw.length == 0) {
                 return speaking;
             }
@@ -1280,25 +1279,17 @@ public final class DegreeLaws {
             return (known >> 16 + many & 1) != 0;
         }
 
-        /** The acts of a kind that are in force there, were it so warm. */
-        int barring(int kind, int w, int hour, int degree) {
-            return inForce(w, hour, degree, liveActs() & land.actsOfKind[kind]);
-        }
-
-        int finedIn(int kind, int w, int hour) {
-            return land.finesOf(barring(kind, w, hour, degreeIn(w, hour)));
-        }
-
         /** How many hours of a deed count. */
         int measured(int lasts) {
             return land.whole ? lasts : 1;
         }
 
         int fineOfDeed(int kind, int w, int hour, int lasts) {
-            int sum = 0;
+            int acts = actsOf(kind);
             int counting = measured(lasts);
+            int sum = 0;
             for (int k = 0; k < counting; k++) {
-                sum += finedIn(kind, w, hour + k);
+                sum += land.finesOf(inForce(w, hour + k, degreeIn(w, hour + k), acts));
             }
             return sum;
         }
@@ -1419,20 +1410,22 @@ public final class DegreeLaws {
 
         /** By the degrees laid, all of them more by so many: the acts of a kind in force. */
         private void layBarring(int kind, int w, int ahead, int many, int more) {
+            int acts = sky.actsOf(kind);
             for (int n = 0; n < many && n < barring.length; n++) {
                 int degree = Sky.keptDegree(degrees[n] + more);
-                barring[n] = sky.barring(kind, w, sky.now[HOUR] + ahead + n, degree);
+                barring[n] = sky.inForce(w, sky.now[HOUR] + ahead + n, degree, acts);
             }
         }
 
         /** The same from now on, for the many tries of one call. */
         private void layHeated(int kind, int w, int many, int more) {
+            int acts = sky.actsOf(kind);
             for (int n = 0; n < many && n < barring.length; n++) {
                 int hour = sky.now[HOUR] + n;
                 int degree = Sky.keptDegree(degrees[n] + more);
                 int at = hour % DAY * (TOP_DEGREE + 1) + degree;
                 if (byDegree[at] == NONE) {
-                    byDegree[at] = sky.barring(kind, w, hour, degree);
+                    byDegree[at] = sky.inForce(w, hour, degree, acts);
                 }
                 barring[n] = byDegree[at];
             }
@@ -1563,7 +1556,7 @@ public final class DegreeLaws {
             int best = NONE;
             int most = 0;
             for (int a = 0; a < sky.land.acts; a++) {
-                int live = sky.liveActs() & sky.land.actsOfKind[sky.land.kindOf[a]];
+                int live = sky.actsOf(sky.land.kindOf[a]);
                 int fewer = barredHours(live, w) - barredHours(live & ~(1 << a), w);
                 if (fewer > most) {
                     most = fewer;
@@ -1586,7 +1579,7 @@ public final class DegreeLaws {
 
         /** The cover as bits; 0: there is none. */
         int coverIn(int kind, int w) {
-            int acts = sky.liveActs() & sky.land.actsOfKind[kind];
+            int acts = sky.actsOf(kind);
             layDegrees(w, 0, DAY);
             int best = 0;
             int fewest = MOST_ACTS + 1;
@@ -1618,10 +1611,12 @@ public final class DegreeLaws {
         }
 
         void layOut(int kind, int hours) {
+            int acts = sky.actsOf(kind);
             for (int t = 0; t <= hours && t < free.length; t++) {
+                int hour = sky.now[HOUR] + t;
                 free[t] = 0;
                 for (int w = 0; w < sky.land.wards; w++) {
-                    int fine = sky.finedIn(kind, w, sky.now[HOUR] + t);
+                    int fine = sky.land.finesOf(sky.inForce(w, hour, sky.degreeIn(w, hour), acts));
                     fined[t * MOST_WARDS + w] = fine;
                     if (fine == 0) {
                         free[t] |= 1 << w;
@@ -1773,6 +1768,7 @@ public final class DegreeLaws {
                 numbers[i] = (int) told.numbers[i];
             }
             Arrays.fill(known, (byte) UNKNOWN);
+            bestEnd = NONE;
         }
 
         private boolean isBarred(int i, int ahead) {
@@ -1783,8 +1779,8 @@ public final class DegreeLaws {
             if (known[at] == UNKNOWN) {
                 int w = numbers[i] / 100 % 10;
                 int hour = sky.now[HOUR] + ahead;
-                int acts = sky.barring(numbers[i] / 1000, w, hour, sky.degreeIn(w, hour));
-                known[at] = (byte) (acts == 0 ? FREE : BARRED);
+                int acts = sky.actsOf(numbers[i] / 1000);
+                known[at] = (byte) (sky.inForce(w, hour, sky.degreeIn(w, hour), acts) == 0 ? FREE : BARRED);
             }
             return known[at] == BARRED;
         }
@@ -1811,13 +1807,8 @@ public final class DegreeLaws {
             return end;
         }
 
-        void findBest() {
-            bestEnd = NONE;
-            tryNext(0, 0, 0);
-        }
-
-        /** Orders come by their places, so that a later one counts only if it ends sooner. */
-        private void tryNext(int placed, int end, int used) {
+        /** Begun with nothing placed; orders come by their places, so that a later one counts only if it ends sooner. */
+        void tryOrders(int placed, int end, int used) {
             if (placed >= many) {
                 if (bestEnd == NONE || end < bestEnd) {
                     bestEnd = end;
@@ -1829,7 +1820,7 @@ public final class DegreeLaws {
                 int then = (used >> i & 1) != 0 ? NONE : endOf(i, end);
                 if (then != NONE) {
                     order[placed] = i;
-                    tryNext(placed + 1, then, used | 1 << i);
+                    tryOrders(placed + 1, then, used | 1 << i);
                 }
             }
         }
@@ -1867,27 +1858,29 @@ public final class DegreeLaws {
         }
 
         private boolean fits(Tray told, int kind, int w, int d) {
+            int acts = sky.actsOf(kind);
             for (int i = 0; i < told.many && i < DAY; i++) {
                 long v = told.numbers[i];
-                if (v != NONE && v != finedBy(kind, w, sky.now[HOUR] - 1 - i, degrees[i] + d)) {
+                if (v != NONE && v != finedBy(acts, w, sky.now[HOUR] - 1 - i, degrees[i] + d)) {
                     return false;
                 }
             }
             return true;
         }
 
-        private int finedBy(int kind, int w, int hour, int degree) {
-            return sky.land.finesOf(sky.barring(kind, w, hour, Sky.keptDegree(degree)));
+        private int finedBy(int acts, int w, int hour, int degree) {
+            return sky.land.finesOf(sky.inForce(w, hour, Sky.keptDegree(degree), acts));
         }
 
         int tellingHour(int kind, int w) {
+            int acts = sky.actsOf(kind);
             int best = NONE;
             int least = fines.length + 1;
             for (int n = 0; n <= DAY && many > 0; n++) {
                 int hour = sky.now[HOUR] + n;
                 int degree = sky.degreeIn(w, hour);
                 for (int i = 0; i < many; i++) {
-                    fines[i] = finedBy(kind, w, hour, degree + breaths[i]);
+                    fines[i] = finedBy(acts, w, hour, degree + breaths[i]);
                 }
                 int alike = mostAlike();
                 if (alike < least) {

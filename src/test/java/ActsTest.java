@@ -69,6 +69,17 @@ public final class ActsTest {
         // four hours: 41, 42, 43 and then 20; all four more by 1 from hour 20 on
         Check.due("whole: more by 1", w.leastHeat(1, 0, 4), 20);
         Check.due("by none", Check.landOf("ward 5;act 1 from 0 to 99 fine 0;").leastHeat(1, 0, 1), -1);
+        Check.due("by 60", Check.landOf("ward 0;act 1 from 0 to 59 fine 0;").leastHeat(1, 0, 1), 0);
+        Check.due("not by 61", Check.landOf("ward 0;act 1 from 0 to 60 fine 0;").leastHeat(1, 0, 1), -1);
+        Check.due("by 60 less", Check.landOf("ward 99;act 1 from 40 to 99 fine 0;").leastHeat(1, 0, 1), 0);
+        DegreeLaws sooner = Check.landOf("ward 42;act 1 from 40 to 60 fine 1;");
+        sooner.fire(0, 16, 2);
+        Check.due("3 more now, 3 less in two hours", sooner.leastHeat(1, 0, 1), 0);
+        DegreeLaws less = Check.landOf("ward 58;act 1 from 40 to 60 fine 1;");
+        less.ice(0, 16, 2);
+        Check.due("3 less now, 3 more in two hours", less.leastHeat(1, 0, 1), 0);
+        DegreeLaws late = Check.landOf("ward 0;act 1 from 10 to 99 fine 1;degree:90-day*9;hour 16;");
+        Check.due("less in 200", late.leastHeat(1, 0, 1), 200);
         String days = "ward 0;act 1 from 0 to 99 fine 1;prevails:act=0;act 1 from 0 to 0 fine 0;";
         Check.due("by none", Check.landOf(days).leastHeat(1, 0, 24), -1);
         String day = "ward 0;act 1 from 0 to 60 fine 1;degree:day;";
@@ -110,6 +121,21 @@ public final class ActsTest {
         // by itself each speaks alone, and then none prevails
         covered(Check.landOf("ward 0;act 1 from 0 to 9 fine 1;act 1 from 0 to 9 fine 2;act 1 from 0 to 9 fine 3;"
             + "prevails:many=2 and fine>1;"), 1, 2, 3);
+        StringBuilder eight = new StringBuilder("ward 0;degree:hour;");
+        for (int a = 0; a < 8; a++) {
+            eight.append("act 1 from ").append(3 * a).append(" to ").append(3 * a + 2).append(" fine 1;");
+        }
+        covered(Check.landOf(eight.toString()), 1, 8, 255);
+        DegreeLaws now = Check.landOf("ward 0;act 1 from 0 to 9 fine 1;act 1 from 50 to 50 fine 1;");
+        covered(now, 1, 1, 1);
+        now.fire(0, 40, 1);
+        covered(now, 1, -1, -1);
+        now.fire(0, 50, 1);
+        covered(now, 1, 2, 3);
+        DegreeLaws day = Check.landOf("ward 0;act 1 from 0 to 0 fine 1;degree:day;");
+        covered(day, 1, 1, 1);
+        day.hours(1);
+        covered(day, 1, -1, -1);
         Check.refused("cover(10, 3, 2)", x, Check.NSE, () -> x.cover(10, 3, 2));
         Check.refused("cover(10, 0, 0)", x, Check.IAE, () -> x.cover(10, 0, 0));
         Check.refused("cover(1, 0, 2)", x, Check.IAE, () -> x.cover(1, 0, 2));
@@ -129,6 +155,10 @@ public final class ActsTest {
         Check.due("fire counts", x.widen(0, 0), 41);
         x.hours(1);
         Check.due("no more", x.widen(0, 0), 14);
+        DegreeLaws day = Check.landOf("ward 0;act 1 from 0 to 0 fine 1;degree:day*50;");
+        Check.due("24 hours", day.widen(0, 0), 0);
+        day.hours(1);
+        Check.due("the next day", day.widen(0, 0), 50);
         Check.refused("widen(3, 0)", x, Check.NSE, () -> x.widen(3, 0));
         Check.refused("widen(0, 3)", x, Check.NSE, () -> x.widen(0, 3));
         Check.refused("widen(-1, 0)", x, Check.NSE, () -> x.widen(-1, 0));
@@ -151,6 +181,18 @@ public final class ActsTest {
         Check.due("the first of like ones", z.heaviest(0), 0);
         DegreeLaws m = Check.landOf("ward 5;act 1 from 0 to 9 fine 1;act 1 from 0 to 9 fine 2;prevails:many=1 or fine=1;");
         Check.due("the other prevails then", m.heaviest(0), -1);
+        DegreeLaws now = Check.landOf("ward 0;act 1 from 0 to 9 fine 1;act 2 from 50 to 59 fine 1;");
+        now.fire(0, 50, 12);
+        Check.due("12 hours each", now.heaviest(0), 0);
+        now.fire(0, 50, 13);
+        Check.due("this hour counts", now.heaviest(0), 1);
+        DegreeLaws one = Check.landOf("ward 0;act 1 from 50 to 59 fine 1;");
+        one.fire(0, 50, 1);
+        Check.due("by this hour alone", one.heaviest(0), 0);
+        DegreeLaws day = Check.landOf("ward 0;act 1 from 1 to 1 fine 1;degree:day;");
+        Check.due("not in the 25th hour", day.heaviest(0), -1);
+        day.hours(1);
+        Check.due("by the last hour alone", day.heaviest(0), 0);
         Check.refused("heaviest(3)", x, Check.NSE, () -> x.heaviest(3));
         Check.refused("heaviest(-1)", x, Check.NSE, () -> x.heaviest(-1));
     }

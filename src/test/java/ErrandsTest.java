@@ -43,6 +43,11 @@ public final class ErrandsTest {
         Check.due("from when the one ahead is done", errands(Check.landOf(DAYS + "hour 11;"), 2005, 1001), 206);
         Check.due("not an hour more", errands(Check.landOf(DAYS + "hour 10;"), 2005, 1001), -1);
         Check.due("four of the longest", errands(Check.landOf("ward 0;whole;"), 24, 24, 24, 24), 96);
+        // each waits for its day: begun in 200, 392, 584 and 776 hours
+        DegreeLaws far = Check.landOf(DAYS + "act 2 from 0 to 16 fine 1;act 3 from 0 to 24 fine 1;act 4 from 0 to 32 fine 1;"
+            + "hour 16;whole;");
+        Check.due("as far as it goes", errands(far, 1001, 2001, 3001, 4024), 800);
+        Check.due("best", far.bestOrder(0, 0), 800);
         DegreeLaws x = Check.landOf(DAYS + "hour 11;");
         Check.trayOf(x, 0, 1001, 2005);
         Check.due("the first can't wait so long", x.errands(0), -1);

@@ -52,6 +52,8 @@ public final class HoursTest {
         Check.due("wards 1 and 2", x.where(1, 1), 1);
         DegreeLaws y = Check.landOf("ward 0;ward 0;act 1 from 0 to 9 fine 1;");
         Check.due("in none", y.where(1, 1), -1);
+        Check.due("in 200", Check.landOf(DAYS + "hour 16;").where(1, 1), 0);
+        Check.due("not in 201", Check.landOf(DAYS + "hour 15;").where(1, 1), -1);
         Check.due("without wards", new DegreeLaws().where(1, 1), -1);
         Check.refused("where(10, 1)", y, Check.IAE, () -> y.where(10, 1));
         Check.refused("where(-1, 1)", y, Check.IAE, () -> y.where(-1, 1));
@@ -140,6 +142,16 @@ public final class HoursTest {
         Check.due("by two acts", Check.landOf(hourly + "act 3 from 23 to 23 fine 0;").alwaysBarred(), 1 << 9 | 1 << 3);
         Check.due("half a day each in two wards", Check.landOf("ward 0;ward 0;act 1 from 0 to 9 fine 1;"
             + "prevails:ward=0 and hour<12 or ward=1 and hour>11;").alwaysBarred(), 0);
+        Check.due("none beyond the last ward", Check.landOf("ward 50;act 1 from 0 to 9 fine 1;").alwaysBarred(), 0);
+        DegreeLaws x = Check.landOf("ward 0;act 1 from 10 to 19 fine 1;");
+        x.fire(0, 10, 24);
+        Check.due("just a day", x.alwaysBarred(), 2);
+        x.fire(0, 10, 23);
+        Check.due("an hour less", x.alwaysBarred(), 0);
+        DegreeLaws y = Check.landOf("ward 0;act 1 from 0 to 9 fine 1;");
+        Check.due("always", y.alwaysBarred(), 2);
+        y.fire(0, 10, 1);
+        Check.due("but for this hour", y.alwaysBarred(), 0);
         Check.due("kinds in wards of their own", Check.landOf("ward 0;ward 50;act 1 from 0 to 9 fine 1;"
             + "act 0 from 40 to 60 fine 1;").alwaysBarred(), 3);
     }

@@ -12,6 +12,9 @@ public final class LandTest {
         faultsOfPlaces();
         faultsOfBounds();
         faultsOfTooMany();
+        cutTexts();
+        fiveWards();
+        prevailingByHour();
         wards();
         acts();
         degrees();
@@ -129,6 +132,9 @@ public final class LandTest {
         fault("wards 1;", 2, 0);
         fault("war 1;", 2, 0);
         fault("base 1;", 2, 0);
+        fault("wardz 1;", 2, 0);
+        fault("zward 1;", 2, 0);
+        fault("awhole;", 2, 0);
         fault("1;", 2, 0);
         fault("ward;", 2, 4);
         fault("ward beside 0;", 2, 5);
@@ -214,6 +220,63 @@ public final class LandTest {
         // a seventh that can't stand there
         fault("degree:((((((1(", 2, 14);
         fault("prevails:((((((not", 2, 15);
+    }
+
+    /** What lies on the tape behind the text counts for nothing. */
+    private static void cutTexts() {
+        DegreeLaws x = new DegreeLaws();
+        Check.feedText(x, "ward 12;");
+        Check.due("ward 1", x.land(6), -12);
+        Check.due("its place", x.fault(1), 6);
+        Check.feedText(x, "whole;");
+        Check.due("whol", x.land(4), -12);
+        Check.due("its place", x.fault(1), 0);
+        Check.feedText(x, "hour 1234;");
+        Check.due("hour 123", x.land(8), -12);
+        Check.due("its place", x.fault(1), 8);
+        Check.feedText(x, "hour 12;?");
+        Check.due("hour 12;", x.land(8), 1);
+        Check.due("HOUR", x.count(4), 12);
+    }
+
+    private static void fiveWards() {
+        DegreeLaws x = Check.landOf("ward 1;ward 2 beside 0;ward 3 beside 1;ward 4 beside 2;ward 5 beside 3 0;"
+            + "act 1 from 5 to 9 fine 1;act 1 from 4 to 4 fine 1;act 1 from 5 to 5 fine 1;act 1 from 5 to 5 fine 1;"
+            + "act 1 from 5 to 5 fine 1;act 1 from 5 to 5 fine 1;act 1 from 5 to 5 fine 1;act 2 from 5 to 5 fine 99;");
+        for (int w = 0; w < 5; w++) {
+            Check.due("degree", x.degree(w, 0), w + 1);
+            Check.due("code", x.code(w, 0), w == 4 ? 0xfd : w == 3 ? 2 : 0);
+        }
+        Check.due("beside 4", x.ward(4, 1), 9);
+        Check.due("act 7", x.fine(2, 4, 0, 1), 99);
+        Check.due("amend(7)", x.amend(7, 1, 3), 3);
+        Check.due("strictest", x.strictest(), 0);
+        Check.due("alwaysBarred", x.alwaysBarred(), 6);
+    }
+
+    /** The law knows the hour of each hour that is asked for, not of this one. */
+    private static void prevailingByHour() {
+        String text = "ward 5;act 1 from 0 to 9 fine 3;prevails:hour<12;hour 6;";
+        DegreeLaws x = Check.landOf(text);
+        for (int n = 0; n < 30; n++) {
+            boolean free = (n + 6) % 24 > 11;
+            Check.due("code", x.code(0, n), free ? 0 : 1);
+            Check.due("fine", x.fine(1, 0, n, 1), free ? 0 : 3);
+            Check.due("lawful", x.lawful(1, 0, n, 1) ? 1 : 0, free ? 1 : 0);
+            Check.due("heat", x.heat(1, 0, n, 1), free ? 0 : 5);
+        }
+        Check.due("soonest", x.soonest(1, 0, 1), 6);
+        Check.due("cheapest", x.cheapest(1, 0, 1), 6);
+        Check.due("freeHours", x.freeHours(1, 0, 24), 12);
+        Check.due("spell", x.spell(1, 0, 24, 1), 6);
+        Check.due("lawless", x.lawless(0), 6);
+        Check.due("leastHeat", x.leastHeat(1, 0, 1), 6);
+        Check.due("heaviest", x.heaviest(0), 0);
+        DegreeLaws y = Check.landOf(text + "whole;");
+        Check.due("whole lawful", y.lawful(1, 0, 6, 12) ? 1 : 0, 1);
+        Check.due("whole lawful", y.lawful(1, 0, 6, 13) ? 1 : 0, 0);
+        Check.due("whole fine", y.fine(1, 0, 0, 24), 36);
+        Check.due("whole heat", y.heat(1, 0, 5, 2), 5);
     }
 
     private static void wards() {

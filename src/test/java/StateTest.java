@@ -14,6 +14,7 @@ public final class StateTest {
         undoing();
         tenAtMost();
         judging();
+        repealedOnes();
         whyNot();
         performing();
         seasons();
@@ -82,6 +83,13 @@ public final class StateTest {
         Check.due("first", x.act(0, 1), 30);
         Check.due("second", x.act(0, 2), 30);
         Check.due("four deeds", x.count(7), 4);
+        x.amend(1, 41, 42);
+        x.amend(2, 51, 52);
+        int[] want = {30, 30, 41, 42, 51, 52};
+        for (int i = 0; i < 6; i++) {
+            Check.due("degrees of act " + i / 2, x.act(i / 2, 1 + i % 2), want[i]);
+        }
+        x.undo(2);
         x.repeal(0);
         Check.due("repealed: in none", x.amend(0, 0, 99), 0);
         Check.due("amended all the same", x.act(0, 2), 99);
@@ -224,6 +232,15 @@ public final class StateTest {
         Check.refused("judge(0, -1)", x, Check.IAE, () -> x.judge(0, -1));
     }
 
+    private static void repealedOnes() {
+        DegreeLaws x = Check.landOf(PLAIN);
+        Check.trayOf(x, 0, 40001, 40002, 40001);
+        judged(x, 2, 2, 0, 0);
+        Check.due("two", x.perform(0), 2);
+        Check.due("act 0 is left", x.count(3), 1);
+        Check.due("both are repealed", x.act(1, 4) + x.act(2, 4), 2);
+    }
+
     private static void whyNot() {
         DegreeLaws x = Check.landOf(PLAIN);
         long[] fine = {-1, 1, 24, 1, 9224, 20000, 20260, 30000, 30260, 40000, 40002};
@@ -316,6 +333,10 @@ public final class StateTest {
             y.undo(7);
             Check.due("undone alike", Check.portrait(x).equals(Check.portrait(y)) ? 1 : 0, 1);
         }
+        DegreeLaws one = Check.landOf("ward 50;act 3 from 40 to 99 fine 8;whole;");
+        DegreeLaws two = Check.landOf("ward 50;act 3 from 40 to 99 fine 8;whole;");
+        Check.due("in one ward", one.season(4, 30), seasonByHand(two, 4, 30));
+        Check.due("as by hand", Check.portrait(one).equals(Check.portrait(two)) ? 1 : 0, 1);
         DegreeLaws x = Check.landOf(PLAIN);
         Check.due("season(5, 1)", x.season(5, 1), 1);
         Check.refused("season(1, 0)", x, Check.IAE, () -> x.season(1, 0));

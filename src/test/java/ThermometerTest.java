@@ -7,6 +7,8 @@ public final class ThermometerTest {
     public static void main(String[] args) {
         plain();
         firesOfThen();
+        otherWards();
+        hoursOfThen();
         keptDegrees();
         looking();
         refusals();
@@ -66,6 +68,28 @@ public final class ThermometerTest {
         Check.due("20", x.breath(0, 1, 0, 30), 20);
     }
 
+    private static void otherWards() {
+        DegreeLaws x = Check.landOf("ward 50;ward 10;ward 10;act 1 from 20 to 29 fine 4;hour 4;");
+        x.fire(2, 10, 3);
+        x.ice(1, 5, 2);
+        x.hours(5);
+        // in ward 2 HOURS 8, 7 (10 degrees), 6, 5, 4 (20), 3 (10)
+        Check.trayOf(x, 0, 0, 0, 4, 4, 4, 0);
+        found(x, 1, 2, 0, 9);
+        // in ward 1 10, 10, 10, 5, 5, 10
+        Check.trayOf(x, 0, 4, 4, 4, 0, 0, 4);
+        found(x, 1, 1, 10, 14);
+    }
+
+    private static void hoursOfThen() {
+        DegreeLaws x = Check.landOf("ward 15;act 1 from 10 to 19 fine 4;prevails:hour<12;hour 14;");
+        // hours 13, 12 (none in force), 11, 10
+        Check.trayOf(x, 0, 0, 0, 4, 4);
+        found(x, 1, 0, -5, 4);
+        Check.trayOf(x, 0, 4);
+        found(x, 1, 0, 1, 0);
+    }
+
     private static void keptDegrees() {
         DegreeLaws x = Check.landOf("ward 5;ward 95;act 1 from 0 to 0 fine 3;act 1 from 99 to 99 fine 2;hour 1;");
         Check.trayOf(x, 0, 3);
@@ -82,6 +106,10 @@ public final class ThermometerTest {
         Check.due("there are none", x.look(0, 1, 0), -1);
         Check.trayOf(x, 0, -1);
         Check.due("of a kind that is never barred", x.look(0, 3, 0), 0);
+        DegreeLaws one = Check.landOf("ward 50;act 1 from 50 to 50 fine 1;hour 1;");
+        Check.trayOf(one, 0, 1);
+        Check.due("one alone", one.seen(0, 1, 0), 1);
+        Check.due("of one alone", one.look(0, 1, 0), 0);
         DegreeLaws y = Check.landOf("ward 0;act 1 from 60 to 99 fine 1;degree:hour*3;hour 1;");
         Check.trayOf(y, 0, -1);
         // in hour 20 it is 60: breaths from 0 to 20 are fined, 20 are not

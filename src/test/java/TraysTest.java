@@ -124,6 +124,14 @@ public final class TraysTest {
         Check.due("as in image 2", rest(x).equals(second) ? 1 : 0, 1);
         x.undo(4);
         Check.due("back to what image 0 is", rest(x).equals(first) ? 1 : 0, 1);
+        x.restore(2);
+        x.season(77, 30);
+        x.restore(2);
+        x.undo(3);
+        Check.due("what can be undone is of the image too", x.act(0, 2), 98);
+        Check.due("what can be undone is of the image too", x.act(1, 4), 0);
+        x.undo(1);
+        Check.due("back to what image 0 is", rest(x).equals(first) ? 1 : 0, 1);
         x.season(3, 30);
         x.image(2);
         String third = rest(x);
@@ -145,8 +153,8 @@ public final class TraysTest {
         Check.landText(x, PLAIN + "prevails:act=1;whole;");
         Check.due("code", x.code(0, 7), 2);
         x.image(0);
-        Check.landText(x, "ward 15;act 1 from 10 to 19 fine 5;act 1 from 15 to 30 fine 7;prevails:act=0;hour 3;");
-        Check.due("code", x.code(0, 7), 1);
+        Check.landText(x, "ward 15;act 1 from 10 to 19 fine 5;act 1 from 15 to 30 fine 7;prevails:act=0;hour 7;");
+        Check.due("code", x.code(0, 0), 1);
         Check.landText(x, "ward 100;");
         x.restore(0);
         Check.due("WARDS", x.count(1), 3);

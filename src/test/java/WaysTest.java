@@ -80,6 +80,11 @@ public final class WaysTest {
         for (int k = 0; k < want.length; k++) {
             Check.due("freeAt " + k, x.freeAt(1, 0, 3, k), want[k]);
         }
+        DegreeLaws four = Check.landOf("ward 0;ward 0 beside 0;ward 0;ward 0;ward 0 beside 0;act 1 from 50 to 99 fine 4;");
+        four.fire(0, 60, 99);
+        four.ice(0, 60, 1);
+        Check.due("away by ward 1 or 4", four.freeWay(1, 0, 4), 1);
+        Check.due("there at once", four.freeAt(1, 0, 4, 1), 4);
         Check.refused("freeAt(10, 4, 0, -1)", x, Check.NSE, () -> x.freeAt(10, 4, 0, -1));
         Check.refused("freeAt(1, 0, 4, 0)", x, Check.NSE, () -> x.freeAt(1, 0, 4, 0));
         Check.refused("freeAt(10, 0, 0, 0)", x, Check.IAE, () -> x.freeAt(10, 0, 0, 0));
@@ -158,6 +163,16 @@ public final class WaysTest {
         Check.due("not at all is latest", far.guard(1, 0, 4), 2);
         Check.due("late is later", far.guard(1, 0, 2), 1);
         Check.due("a way round may be as soon", far.guard(1, 4, 1), 2);
+        Check.due("ward 0 too", Check.landOf("ward 0;ward 0 beside 0;ward 0 beside 0;").guard(1, 1, 2), 0);
+        DegreeLaws late = Check.landOf("ward 0;ward 0 beside 0;ward 0 beside 0;ward 0 beside 1 2;ward 0 beside 3;"
+            + "act 1 from 50 to 99 fine 4;");
+        late.fire(2, 60, 58);
+        // without 1 it comes in 60 hours, without 3 not at all
+        Check.due("freeWay", late.freeWay(1, 0, 4), 3);
+        Check.due("not at all is later than 60", late.guard(1, 0, 4), 3);
+        Check.due("to ward 4", late.freeAt(1, 0, 4, 3), 4);
+        Check.due("from ward 4", late.freeAt(1, 4, 0, 1), 3);
+        Check.due("stays in ward 4", late.freeAt(1, 4, 4, 0), 4);
         Check.refused("guard(10, 5, 5)", far, Check.NSE, () -> far.guard(10, 5, 5));
         Check.refused("guard(1, 0, 5)", far, Check.NSE, () -> far.guard(1, 0, 5));
         Check.refused("guard(10, 0, 1)", far, Check.IAE, () -> far.guard(10, 0, 1));
