@@ -79,7 +79,11 @@ public final class ActsTest {
         less.ice(0, 16, 2);
         Check.due("3 less now, 3 more in two hours", less.leastHeat(1, 0, 1), 0);
         DegreeLaws late = Check.landOf("ward 0;act 1 from 10 to 99 fine 1;degree:90-day*9;hour 16;");
-        Check.due("less in 200", late.leastHeat(1, 0, 1), 200);
+        Check.due("none needed in 200", late.leastHeat(1, 0, 1), 200);
+        DegreeLaws later = Check.landOf("ward 0;act 1 from 9 to 99 fine 1;degree:90-day*9;hour 16;");
+        Check.due("1 less in 200", later.leastHeat(1, 0, 1), 200);
+        DegreeLaws cold = Check.landOf("ward 0;act 1 from 98 to 99 fine 1;degree:98-hour*98;");
+        Check.due("cold in an hour", cold.leastHeat(1, 0, 1), 1);
         String days = "ward 0;act 1 from 0 to 99 fine 1;prevails:act=0;act 1 from 0 to 0 fine 0;";
         Check.due("by none", Check.landOf(days).leastHeat(1, 0, 24), -1);
         String day = "ward 0;act 1 from 0 to 60 fine 1;degree:day;";

@@ -142,6 +142,8 @@ public final class HoursTest {
         Check.due("by two acts", Check.landOf(hourly + "act 3 from 23 to 23 fine 0;").alwaysBarred(), 1 << 9 | 1 << 3);
         Check.due("half a day each in two wards", Check.landOf("ward 0;ward 0;act 1 from 0 to 9 fine 1;"
             + "prevails:ward=0 and hour<12 or ward=1 and hour>11;").alwaysBarred(), 0);
+        Check.due("kind 0 but for the last hour",
+            Check.landOf("ward 0;degree:hour;act 0 from 0 to 22 fine 1;").alwaysBarred(), 0);
         Check.due("none beyond the last ward", Check.landOf("ward 50;act 1 from 0 to 9 fine 1;").alwaysBarred(), 0);
         DegreeLaws x = Check.landOf("ward 0;act 1 from 10 to 19 fine 1;");
         x.fire(0, 10, 24);

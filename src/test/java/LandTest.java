@@ -400,6 +400,10 @@ public final class LandTest {
         inForce("act*2+1=3", 2);
         inForce("act*999*999*999=999*999*3", 10);
         inForce("not not not act=1", 9);
+        DegreeLaws x = Check.landOf("ward 0;act 1 from 0 to 9 fine 1;act 1 from 5 to 9 fine 1;prevails:not fine>0;");
+        Check.due("one speaks", x.code(0, 0), 0);
+        x.fire(0, 5, 1);
+        Check.due("two speak", x.code(0, 0), 0);
     }
 
     private static void codes() {

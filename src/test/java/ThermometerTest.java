@@ -26,6 +26,11 @@ public final class ThermometerTest {
     }
 
     private static void plain() {
+        DegreeLaws alone = Check.landOf(PLAIN + "hour 5;");
+        Check.trayOf(alone, 0, 5, 5);
+        Check.due("breath alone", alone.breath(0, 1, 0, 0), -3);
+        Check.trayOf(alone, 0, 12, -1, 5);
+        Check.due("breath of another tray", alone.breath(0, 1, 0, 0), 1);
         DegreeLaws x = Check.landOf(PLAIN + "hour 5;");
         // it was 14 an hour ago and 13 two hours ago
         Check.trayOf(x, 0, 5, 5);
