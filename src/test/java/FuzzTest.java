@@ -51,7 +51,49 @@ public final class FuzzTest {
                 System.exit(1);
             }
         }
+        calls += extremes();
         System.out.println(runs + " runs of " + calls + " calls in all, all alike");
+    }
+
+    /** Every call with the least and greatest numbers and those at the edges, without a land and with two. */
+    private static long extremes() {
+        int[] edges = {Integer.MIN_VALUE, -1, 0, 1, 9, 60, 1000, Integer.MAX_VALUE};
+        long calls = 0;
+        for (int state = 0; state < 3; state++) {
+            for (Method m : OURS.values()) {
+                FuzzTest test = new FuzzTest(state);
+                if (state > 0) {
+                    test.tell("ward 9;ward 8 beside 0;act 1 from 0 to 20 fine 3;act 0 from 5 to 99 fine 0;degree:base+hour"
+                        + (state == 1 ? ";" : ";whole;prevails:many=1;"));
+                    test.call("tray", 0, 3, 1);
+                    test.call("write", 0, 0, 1101L);
+                    test.call("tray", 1, 3, 1);
+                    test.call("write", 1, 0, -1L);
+                }
+                int many = m.getParameterCount();
+                int all = 1;
+                for (int i = 0; i < many; i++) {
+                    all *= edges.length;
+                }
+                // Of feed's five numbers none is at an edge.
+                for (int i = 0; i < all && i < 4096; i++) {
+                    Object[] args = new Object[many];
+                    int rest = i;
+                    for (int k = 0; k < many; k++) {
+                        int v = edges[rest % edges.length];
+                        rest /= edges.length;
+                        args[k] = m.getParameterTypes()[k] == long.class ? (Object) (long) v : (Object) v;
+                    }
+                    test.call(m.getName(), args);
+                }
+                calls += test.run.size();
+                if (test.wrong > 0) {
+                    System.out.println("extremes of " + m);
+                    System.exit(1);
+                }
+            }
+        }
+        return calls;
     }
 
     private void go() {
@@ -203,9 +245,10 @@ public final class FuzzTest {
 
     private void tellLand() {
         String text = landText();
-        if (text.length() > 900) {
-            text = text.substring(0, 900);
-        }
+        tell(text.length() > 900 ? text.substring(0, 900) : text);
+    }
+
+    private void tell(String text) {
         for (int at = 0; at < text.length(); at += 20) {
             int[] five = new int[5];
             for (int k = 0; k < 20; k++) {
@@ -213,7 +256,10 @@ public final class FuzzTest {
             }
             call("feed", five[0], five[1], five[2], five[3], five[4]);
         }
-        call("land", below(15) == 0 ? text.length() + 20 : text.length());
+        if (below(15) == 0) {
+            call("land", text.length() + 20);
+        }
+        call("land", text.length());
         for (int i = 0; i < 2; i++) {
             call("fault", i);
         }
