@@ -15,11 +15,11 @@ public final class RoomTest {
     public static void main(String[] args) {
         // once ahead, so that what the machine makes for itself isn't counted
         run(queries());
-        Check.due("512 new objects, in thousands of elements", made(() -> {
+        Check.due("512 new objects take less than 20 million bytes", made(() -> {
             for (int i = 0; i < 512; i++) {
                 new DegreeLaws();
             }
-        }) / 1000 / 1000 < 20 ? 1 : 0, 1);
+        }) < 20_000_000 ? 1 : 0, 1);
         DegreeLaws x = queries();
         Check.due("512 rounds of dear calls make next to nothing", made(() -> {
             for (int i = 0; i < 512; i++) {
@@ -68,7 +68,7 @@ public final class RoomTest {
         x.seen(1, 1, 0);
         x.look(1, 1, 0);
         x.judge(2, 3);
-        x.copy(3 - 2, 0);
+        x.copy(1, 0);
         Check.trayOf(x, 1, -1, 14, 14);
     }
 
