@@ -8,6 +8,7 @@ public final class EdgeErrandsTest {
 
     public static void main(String[] args) {
         numbers();
+        oneBehindTheOther();
         inOrder();
         within200();
         errandsBounds();
@@ -43,6 +44,16 @@ public final class EdgeErrandsTest {
                 }
             }
         }
+    }
+
+    private static void oneBehindTheOther() {
+        Check.edge(0, "one behind the other, each begun as soon as it is LAWFUL");
+        // kind 2 till hour 4, kind 3 in hour 7, kind 1 from hour 10 on: each waits for its hour, and no longer
+        Check.due("at once", errands(Check.landOf(HOURLY), 2004), 4);
+        Check.due("in hour 7", errands(Check.landOf(HOURLY), 2004, 3003), 10);
+        Check.due("in hour 10 at once", errands(Check.landOf(HOURLY), 2004, 3003, 1005), 15);
+        Check.due("in hour 11", errands(Check.landOf(HOURLY), 2004, 3004, 1005), 16);
+        Check.due("at once again", errands(Check.landOf(HOURLY), 2004, 3004, 1005, 1001), 17);
     }
 
     private static void inOrder() {

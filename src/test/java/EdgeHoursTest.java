@@ -28,6 +28,14 @@ public final class EdgeHoursTest {
     }
 
     private static void soonest() {
+        Check.edge(0, "SOONEST: the least n (0 to 200) so that a DEED begun in n HOURS is LAWFUL.");
+        // free are hours 6 to 11 and 13 to 23
+        for (int hour = 0; hour < 24; hour++) {
+            DegreeLaws x = Check.landOf(HOURLY + "hour " + hour + ";");
+            int want = hour < 6 ? 6 - hour : hour == 12 ? 1 : 0;
+            Check.due("from hour " + hour + " on", x.soonest(1, 0, 1), want);
+            Check.due("LAWFUL then", x.lawful(1, 0, want, 1) ? 1 : 0, 1);
+        }
         Check.edge(21, "SOONEST; NONE: not by then.");
         Check.due("in 0", Check.landOf(HOURLY + "hour 6;").soonest(1, 0, 1), 0);
         Check.due("in 1", Check.landOf(HOURLY + "hour 5;").soonest(1, 0, 1), 1);

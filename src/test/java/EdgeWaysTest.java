@@ -7,6 +7,7 @@ public final class EdgeWaysTest {
 
     public static void main(String[] args) {
         freeWay();
+        staysOrGoes();
         free();
         within60();
         freeAt();
@@ -52,6 +53,20 @@ public final class EdgeWaysTest {
         x.fire(4, 60, 4);
         Check.due("just in time", x.freeWay(1, 0, 4), 4);
         Check.due("another KIND", x.freeWay(2, 0, 4), 4);
+    }
+
+    private static void staysOrGoes() {
+        Check.edge(0, "A WAY: from a WARD now, each HOUR one stays or goes to a WARD beside");
+        DegreeLaws x = Check.landOf(DIAMOND + "ward 0;");
+        int[] beside = {1 | 2 | 4, 1 | 2 | 8, 1 | 4 | 8, 2 | 4 | 8, 16};
+        for (int from = 0; from < 5; from++) {
+            for (int to = 0; to < 5; to++) {
+                int one = beside[from] >> to & 1;
+                Check.due("in an HOUR from " + from + " to " + to, x.freeWays(1, from, to, 1), one);
+                Check.due("in no HOUR from " + from + " to " + to, x.freeWays(1, from, to, 0), from == to ? 1 : 0);
+                Check.due("FINED in an HOUR from " + from + " to " + to, x.wayFine(1, from, to, 1), one - 1);
+            }
+        }
     }
 
     private static void free() {
