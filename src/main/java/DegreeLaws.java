@@ -1219,10 +1219,15 @@ public final class DegreeLaws {
             slots[Reader.BASE - Reader.FIRST_WORD] = land.base[w];
             slots[Reader.FIRE_WORD - Reader.FIRST_WORD] = fire;
             slots[Reader.ICE_WORD - Reader.FIRST_WORD] = ice;
-            slots[Reader.HOUR_WORD - Reader.FIRST_WORD] = hour % DAY;
+            slots[Reader.HOUR_WORD - Reader.FIRST_WORD] = hourOfDay(hour);
             slots[Reader.DAY_WORD - Reader.FIRST_WORD] = hour / DAY % MOST_DAYS;
             slots[Reader.WARD - Reader.FIRST_WORD] = w;
             return keptDegree(machine.valueOf(land.degreeLaw));
+        }
+
+        /** Never below 0: far beyond the calls that are promised HOUR runs over, and this is an index still. */
+        static int hourOfDay(int hour) {
+            return Math.floorMod(hour, DAY);
         }
 
         static int keptDegree(int degree) {
@@ -1253,7 +1258,7 @@ public final class DegreeLaws {
             for (int a = 0; a < land.acts; a++) {
                 if ((speaking >> a & 1) != 0) {
                     int many = Integer.bitCount(speaking & land.actsOfKind[land.kindOf[a]]);
-                    if (prevails(a, many, w, hour % DAY)) {
+                    if (prevails(a, many, w, hourOfDay(hour))) {
                         code |= 1 << a;
                     }
                 }
@@ -1423,7 +1428,7 @@ public final class DegreeLaws {
             for (int n = 0; n < many && n < barring.length; n++) {
                 int hour = sky.now[HOUR] + n;
                 int degree = Sky.keptDegree(degrees[n] + more);
-                int at = hour % DAY * (TOP_DEGREE + 1) + degree;
+                int at = Sky.hourOfDay(hour) * (TOP_DEGREE + 1) + degree;
                 if (byDegree[at] == NONE) {
                     byDegree[at] = sky.inForce(w, hour, degree, acts);
                 }

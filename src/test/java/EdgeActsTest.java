@@ -74,6 +74,12 @@ public final class EdgeActsTest {
         Check.due("whole: a day", whole.heat(1, 0, 0, 24), -14);
         // hours 999 to 1022 are 15 to 23 and 0 to 14
         Check.due("whole: a day in 999", whole.heat(1, 0, 999, 24), -14);
+        // barred up to 50 in hour 7 alone, by the law that prevails
+        DegreeLaws law = Check.landOf("ward 5;act 1 from 0 to 50 fine 3;prevails:hour=7;whole;");
+        int[][] deeds = {{7, 1, 46}, {17, 1, 0}, {5, 2, 0}, {5, 3, 46}, {8, 3, 0}, {8, 24, 46}, {991, 1, 46}, {990, 1, 0}};
+        for (int[] one : deeds) {
+            Check.due("from " + one[0] + " on for " + one[1], law.heat(1, 0, one[0], one[1]), one[2]);
+        }
         DegreeLaws hot = Check.landOf("ward 0;act 1 from 10 to 70 fine 1;degree:hour*4;whole;");
         // by 60 less 92 is 32
         Check.due("whole: by none", hot.heat(1, 0, 0, 24), 99);
@@ -198,6 +204,9 @@ public final class EdgeActsTest {
         covered(Check.landOf("ward 0;act 1 from 0 to 0 fine 1;act 1 from 0 to 0 fine 1;act 1 from 0 to 0 fine 1;prevails:many=1;"), 1, 1, 1);
         // not in force together with the others, but by itself
         covered(Check.landOf("ward 0;act 1 from 0 to 0 fine 1;act 1 from 0 to 0 fine 1;prevails:many=1 and act=1;"), 1, 1, 2);
+        // by the hour of then: each speaks just when it prevails
+        covered(Check.landOf(hourly + "act 1 from 0 to 11 fine 1;act 1 from 12 to 23 fine 1;"
+            + "prevails:hour<12 and act=0 or hour>11 and act=1;"), 1, 2, 3);
         DegreeLaws x = Check.landOf(hourly + two + "act 1 from 0 to 23 fine 1;");
         x.repeal(4);
         covered(x, 1, 2, 6);
@@ -240,6 +249,16 @@ public final class EdgeActsTest {
         // the 24th hour, and not the 25th
         widened("ward 5;act 1 from 0 to 0 fine 1;degree:day*7;hour 1;", 7);
         widened("ward 5;act 1 from 0 to 0 fine 1;degree:day*7;", 0);
+        StringBuilder above = new StringBuilder("ward 50;");
+        StringBuilder below = new StringBuilder("ward 50;");
+        for (int a = 0; a < 8; a++) {
+            above.append("act 1 from ").append(60 + a).append(" to ").append(70 + 3 * a).append(" fine 1;");
+            below.append("act 1 from ").append(a).append(" to ").append(40 - 3 * a).append(" fine 1;");
+        }
+        for (int a = 0; a < 8; a++) {
+            Check.due("ACT " + a + " above", Check.landOf(above.toString()).widen(a, 0), 10 + a);
+            Check.due("ACT " + a + " below", Check.landOf(below.toString()).widen(a, 0), 10 + 3 * a);
+        }
         DegreeLaws x = Check.landOf("ward 5;act 1 from 0 to 0 fine 1;prevails:0=1;");
         Check.due("SPEAKS, not IN FORCE", x.widen(0, 0), 5);
         x.repeal(0);
@@ -275,6 +294,9 @@ public final class EdgeActsTest {
         Check.due("not repealed", x.heaviest(0), 1);
         x.repeal(1);
         Check.due("by none", x.heaviest(0), -1);
+        // by the hour of then: 12 hours by act 0, 8 by act 1
+        Check.due("by the hour of then", Check.landOf("ward 0;act 1 from 0 to 11 fine 1;act 2 from 12 to 19 fine 1;degree:hour;"
+            + "prevails:hour<12 or act=1;").heaviest(0), 0);
         DegreeLaws y = Check.landOf("ward 0;act 1 from 0 to 0 fine 1;act 1 from 0 to 0 fine 1;prevails:many=2;");
         Check.due("both prevail together alone", y.heaviest(0), 0);
         DegreeLaws z = Check.landOf("ward 0;act 1 from 0 to 0 fine 1;act 1 from 0 to 0 fine 1;prevails:many=1;");

@@ -14,6 +14,7 @@ public final class EdgeErrandsTest {
         errandsBounds();
         bestOrder();
         firstByPlaces();
+        onceMore();
         places();
         bestOrderBounds();
         Check.end();
@@ -165,6 +166,20 @@ public final class EdgeErrandsTest {
         order(best(HOURLY, 4001, 5001, 2001, 1001), 11, 0, 1, 2, 3);
         order(best(HOURLY, 4004, 5004, 2001, 1001), 11, 0, 2, 1, 3);
         order(best(HOURLY, 4005, 5004, 2001, 1001), 11, 1, 2, 0, 3);
+    }
+
+    private static void onceMore() {
+        Check.edge(40, "In the order by which all are done soonest, the first by places");
+        DegreeLaws x = Check.landOf("ward 0;act 1 from 0 to 99 fine 0;");
+        Check.trayOf(x, 0, 1);
+        order(x, 1, 0);
+        // what was best of other errands counts no more
+        Check.trayOf(x, 0, 5, 5);
+        order(x, 10, 0, 1);
+        Check.trayOf(x, 0, 1, 1001);
+        order(x, -1);
+        Check.trayOf(x, 0, 3, 2, 1);
+        order(x, 6, 0, 1, 2);
     }
 
     private static void places() {

@@ -53,6 +53,10 @@ public final class EdgeHoursTest {
         Check.due("whole, not in 201", Check.landOf(DAYS + "hour 15;whole;").soonest(1, 0, 24), -1);
         String once = "ward 0;act 1 from 0 to 8 fine 1;act 1 from 10 to 99 fine 1;degree:day;whole;";
         Check.due("whole, just a day", Check.landOf(once + "hour 16;").soonest(1, 0, 24), 200);
+        // lawful in hour 7 alone, by the law that prevails
+        String seven = "ward 5;act 1 from 0 to 99 fine 3;prevails:not hour=7;";
+        Check.due("by the hour of then", Check.landOf(seven).soonest(1, 0, 1), 7);
+        Check.due("by the hour of then", Check.landOf(seven + "hour 8;").soonest(1, 0, 24), 23);
         Check.due("a KIND without ACTS", whole.soonest(0, 0, 24), 0);
         Check.due("always", Check.landOf("ward 0;act 9 from 0 to 99 fine 0;").soonest(9, 0, 1), -1);
         bounds(21);
@@ -113,6 +117,10 @@ public final class EdgeHoursTest {
         Check.edge(23, "The n (0 to 200) by which it is FINED least, the first.");
         Check.due("all alike: the first", Check.landOf("ward 0;act 1 from 0 to 9 fine 3;").cheapest(1, 0, 24), 0);
         Check.due("nothing is FINED", Check.landOf("ward 0;").cheapest(1, 0, 24), 0);
+        Check.due("in 1", Check.landOf("ward 0;act 1 from 0 to 0 fine 1;degree:hour;").cheapest(1, 0, 1), 1);
+        Check.due("in 2", Check.landOf("ward 0;act 1 from 0 to 1 fine 1;degree:hour;").cheapest(1, 0, 1), 2);
+        Check.due("whole, in 1", Check.landOf("ward 0;act 1 from 0 to 0 fine 1;degree:hour;whole;").cheapest(1, 0, 3), 1);
+        Check.due("by the hour of then", Check.landOf("ward 5;act 1 from 0 to 99 fine 3;prevails:not hour=7;").cheapest(1, 0, 1), 7);
         Check.due("in 200", Check.landOf(DAYS + "hour 16;").cheapest(1, 0, 1), 200);
         Check.due("in 201", Check.landOf(DAYS + "hour 15;").cheapest(1, 0, 1), 0);
         Check.due("1 is less than 4", Check.landOf("ward 0;act 1 from 0 to 99 fine 1;act 1 from 0 to 11 fine 3;"
@@ -220,6 +228,7 @@ public final class EdgeHoursTest {
         Check.due("KINDS 0 and 9", Check.landOf("ward 0;act 9 from 0 to 99 fine 0;act 0 from 0 to 0 fine 0;").alwaysBarred(), 513);
         Check.due("all but the first HOUR", Check.landOf("ward 0;act 1 from 1 to 23 fine 1;degree:hour;").alwaysBarred(), 0);
         Check.due("all but the last HOUR", Check.landOf("ward 0;act 1 from 0 to 22 fine 1;degree:hour;").alwaysBarred(), 0);
+        Check.due("KIND 0, not all HOURS", Check.landOf("ward 0;act 0 from 0 to 5 fine 1;degree:hour;").alwaysBarred(), 0);
         Check.due("just 24 HOURS", Check.landOf("ward 0;act 1 from 0 to 0 fine 1;degree:day;").alwaysBarred(), 2);
         Check.due("23 HOURS", Check.landOf("ward 0;act 1 from 0 to 0 fine 1;degree:day;hour 1;").alwaysBarred(), 0);
         Check.due("by ACTS in turn", Check.landOf("ward 0;act 1 from 0 to 11 fine 1;act 1 from 12 to 23 fine 1;degree:hour;")

@@ -235,6 +235,11 @@ public final class EdgeStateTest {
             Check.due("UNDONE", x.undo(1), 10 - n);
             Check.due("HOUR", x.count(4), left * (left + 1) / 2);
         }
+        DegreeLaws span = Check.landOf("ward 5;act 1 from 0 to 9 fine 1;prevails:span=9;");
+        Check.due("IN FORCE by its span", span.code(0, 0), 1);
+        Check.due("amended", span.amend(0, 0, 8), 0);
+        span.undo(1);
+        Check.due("IN FORCE again", span.code(0, 0), 1);
     }
 
     private static DegreeLaws withDeeds(int many) {

@@ -20,6 +20,7 @@ public final class EdgeTermsTest {
         tenCanBeUndone();
         toldDeeds();
         toldFires();
+        toldFiresOfNone();
         toldRepeals();
         toldHours();
         nothingElseBeingDone();
@@ -217,6 +218,18 @@ public final class EdgeTermsTest {
         Check.due("for none", Check.landOf(acts + "prevails:0=1;").code(0, 0), 0);
         Check.due("for one that doesn't speak", Check.landOf(acts + "prevails:act=3;").code(0, 0), 0);
         Check.due("for some", Check.landOf(acts + "prevails:act>0;").code(0, 0), 6);
+        // for as many as speak now, by what was found for fewer of them before
+        DegreeLaws x = Check.landOf("ward 0;act 1 from 0 to 0 fine 1;act 1 from 0 to 9 fine 1;prevails:not many<9;");
+        x.fire(0, 5, 1);
+        Check.due("for one that speaks", x.code(0, 0), 0);
+        x.fire(0, 0, 1);
+        Check.due("for two that speak", x.code(0, 0), 0);
+        DegreeLaws y = Check.landOf("ward 0;act 1 from 0 to 0 fine 1;act 1 from 0 to 9 fine 1;prevails:many=1;");
+        Check.due("for two that speak", y.code(0, 0), 0);
+        y.fire(0, 5, 1);
+        Check.due("for one that speaks", y.code(0, 0), 2);
+        y.fire(0, 0, 1);
+        Check.due("for two that speak again", y.code(0, 0), 0);
     }
 
     private static void wordsOfPrevails() {
@@ -305,6 +318,13 @@ public final class EdgeTermsTest {
         Check.due("the last HOUR counts", y.lawful(1, 0, 8, 5) ? 1 : 0, 0);
         Check.due("over midnight", y.lawful(1, 0, 13, 16) ? 1 : 0, 1);
         Check.due("over midnight, an HOUR more", y.lawful(1, 0, 13, 17) ? 1 : 0, 0);
+        // barred by the law in hour 7 alone
+        DegreeLaws law = Check.landOf("ward 5;act 1 from 0 to 99 fine 3;prevails:hour=7;whole;");
+        int[][] deeds = {{5, 2, 0}, {5, 3, 3}, {7, 1, 3}, {7, 24, 3}, {8, 3, 0}, {8, 23, 0}, {8, 24, 3}, {17, 1, 0}, {31, 1, 3}};
+        for (int[] one : deeds) {
+            Check.due("FINED from " + one[0] + " on for " + one[1], law.fine(1, 0, one[0], one[1]), one[2]);
+            Check.due("LAWFUL from " + one[0] + " on for " + one[1], law.lawful(1, 0, one[0], one[1]) ? 1 : 0, one[2] == 0 ? 1 : 0);
+        }
         Check.edge(0, "A DEED of a KIND in a WARD lasts 1 to 24 HOURS from an HOUR on");
         Check.due("1", y.fine(1, 0, 5, 1), 3);
         Check.due("24", y.fine(1, 0, 5, 24), 19);
@@ -436,6 +456,24 @@ public final class EdgeTermsTest {
                 Check.due("FIRE's HOURS in " + u + " by " + v, x.ward(u, 4), there && fire ? 6 : 0);
                 Check.due("ICE's HOURS in " + u + " by " + v, x.ward(u, 5), there && !fire ? 6 : 0);
             }
+        }
+    }
+
+    private static void toldFiresOfNone() {
+        Check.edge(0, "FIRE of v modulo 100 there for 6 HOURS; 30000 likewise ICE");
+        for (int w = 0; w < 5; w++) {
+            DegreeLaws x = Check.landOf(TOLD);
+            x.fire(w, 9, 9);
+            x.ice(w, 8, 8);
+            Check.trayOf(x, 0, 30000 + 100 * w);
+            Check.due("ICE of 0", x.perform(0), 1);
+            Check.due("FIRE stays", x.ward(w, 2), 9);
+            Check.due("no ICE is left", x.ward(w, 5), 0);
+            x.undo(1);
+            Check.trayOf(x, 0, 20000 + 100 * w);
+            Check.due("FIRE of 0", x.perform(0), 1);
+            Check.due("no FIRE is left", x.ward(w, 4), 0);
+            Check.due("ICE stays", x.ward(w, 3), 8);
         }
     }
 

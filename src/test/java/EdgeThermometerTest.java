@@ -183,6 +183,14 @@ public final class EdgeThermometerTest {
         // these d alone: those that were not seen to be fine are out
         DegreeLaws some = land("ward 50;act 1 from 60 to 99 fine 1;act 1 from 0 to 20 fine 5;degree:50+day*ward;hour 1;", 1);
         Check.due("these d are 10 to 20: all alike", some.look(1, 1, 0), 0);
+        // these d are 10 to 20: 38 is one of 26 and d in hour 2, in an hour
+        DegreeLaws more = land("ward 50;act 1 from 60 to 99 fine 1;act 1 from 38 to 38 fine 7;degree:base-12*hour;hour 1;", 1);
+        found(more, 1, 0, 10, 20);
+        Check.due("d more, not d less", more.look(1, 1, 0), 1);
+        // these d are 10 and 11: 48 and 49, 36 and 37 alike, then 24 and 25
+        DegreeLaws two = land("ward 50;act 1 from 60 to 61 fine 1;act 1 from 25 to 59 fine 5;degree:base-12*hour;hour 1;", 1);
+        found(two, 1, 0, 10, 11);
+        Check.due("of two d", two.look(1, 1, 0), 2);
         DegreeLaws law = land("ward 50;act 1 from 50 to 99 fine 1;prevails:hour=9;hour 1;", -1);
         Check.due("by the hour of then", law.look(1, 1, 0), 8);
         DegreeLaws kept = land("ward 0;act 1 from 0 to 0 fine 1;degree:50-hour*9;", -1);

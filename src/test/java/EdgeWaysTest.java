@@ -239,6 +239,12 @@ public final class EdgeWaysTest {
         DegreeLaws kite = Check.landOf("ward 0;ward 0 beside 0;ward 0 beside 0;ward 0 beside 1 2;ward 0 beside 3;act 1 from 50 to 99 fine 4;");
         kite.fire(2, 60, 57);
         Check.due("not at all: latest", kite.guard(1, 0, 4), 3);
+        kite.fire(2, 60, 58);
+        // without 1 it comes in 60, without 3 not at all
+        Check.due("not at all is later than in 60", kite.guard(1, 0, 4), 3);
+        DegreeLaws late = Check.landOf(LINE);
+        late.fire(4, 60, 60);
+        Check.due("in 60, or not at all", late.guard(1, 0, 4), 1);
         kite.fire(2, 60, 59);
         // without 1 it would come in 61: not at all too, and the first of both
         Check.due("not at all within 60", kite.guard(1, 0, 4), 1);
