@@ -7,6 +7,8 @@ import java.nio.file.Files;
 import java.nio.file.Path;
 import java.util.Set;
 import java.util.TreeSet;
+import java.util.regex.Matcher;
+import java.util.regex.Pattern;
 
 /** The public face is the document's, no more and no less, and the source keeps to what can be seen of LANGUAGE.md. */
 public final class FaceTest {
@@ -62,6 +64,7 @@ public final class FaceTest {
 
     public static void main(String[] args) throws IOException {
         face();
+        document();
         members();
         classesInside();
         source(Files.readString(Path.of("src/main/java/DegreeLaws.java")));
@@ -98,6 +101,25 @@ public final class FaceTest {
         for (String s : want) {
             Check.due(s + " is there", 0, 1);
         }
+    }
+
+    /** The face above is the document's, where the document is at hand. */
+    private static void document() throws IOException {
+        Path path = Path.of("../shared/DOC.md");
+        if (!Files.exists(path)) {
+            return;
+        }
+        Pattern call = Pattern.compile(" {4}public (\\w+ \\w+)\\((.*)\\)(?: throws (.*))?;");
+        Set<String> told = new TreeSet<>();
+        for (String line : Files.readAllLines(path)) {
+            Matcher m = call.matcher(line);
+            if (m.matches()) {
+                String takes = m.group(2).replaceAll(" \\w+(, )?", ",").replaceAll(",$", "");
+                String throwing = m.group(3) == null ? "" : " " + m.group(3).replace(",", "");
+                told.add(m.group(1) + "(" + takes + ")" + throwing);
+            }
+        }
+        Check.due("the document's face: " + told, told.equals(new TreeSet<>(Set.of(FACE))) ? 1 : 0, 1);
     }
 
     private static void members() {
